@@ -280,6 +280,9 @@ public final class MinutesTest {
         TideKeep end = Checks.on("beach 1 2; sand 9; stone 0 1;" + FIRM, "wave 0 8 9;");
         end.pass(1);
         Checks.due("no cell behind", end.cell(0, 1, 1), 8);
+        TideKeep corners = Checks.on("beach 8 8; sand 2; stone 0 7; stone 7 7;" + FIRM, "wave 0 8 9;");
+        corners.pass(1);
+        Checks.due("no cell behind the last row", corners.cell(0, 7, 1) * 100 + corners.cell(7, 7, 1), 808);
         TideKeep beyond = Checks.on("beach 1 3; sand 2; stone 0 1;" + FIRM, "wave 0 1 9;");
         beyond.pass(1);
         Checks.due("a stone beyond the reach", beyond.cell(0, 2, 1), 8);

@@ -17,6 +17,9 @@ public final class PlainTest {
         for (int run = 0; run < runs; run++) {
             new PlainTest(run).run(run);
         }
+        for (int run = 0; run < 5 * runs; run++) {
+            new PlainTest(-1 - run).runWorks(run);
+        }
         Checks.finish("PlainTest");
     }
 
@@ -39,6 +42,41 @@ public final class PlainTest {
             for (int c = 0; c < 18; c++) {
                 call(number + "." + i + "." + c);
             }
+        }
+    }
+
+    /** Small beaches on which works, wettings and places matter more often than on any. */
+    private void runWorks(int number) {
+        int columns = from(1, 3);
+        int rows = from(2, 3);
+        plain.columns = columns;
+        plain.rows = rows;
+        StringBuilder text = new StringBuilder("beach " + columns + " " + rows + "; sand " + from(1, 5) + "; fall ");
+        text.append(upTo(1)).append("; damp ").append(upTo(9)).append("; dry ").append(from(1, 4)).append("; pack ");
+        text.append(upTo(2)).append("; hump ").append(from(1, 9)).append(" ").append(upTo(9)).append(" ");
+        text.append(upTo(3)).append(";");
+        String flag = cell();
+        text.append("heap ").append(from(1, 5)).append(flag).append("; heap ").append(from(1, 4)).append(cell());
+        text.append("; heap ").append(from(1, 4)).append(cell()).append("; flag").append(flag).append(";");
+        plain.beach(text.toString());
+        Checks.due("beach of " + text, Checks.beach(keep, text.toString()), 11);
+        String sea = "wave " + upTo(6) + " " + from(1, 3) + " " + upTo(6) + "; wave " + upTo(6) + " " + from(1, 3) + " "
+            + upTo(6) + "; cut " + upTo(2) + ";";
+        plain.sea(sea);
+        Checks.due("sea of " + sea, Checks.sea(keep, sea), 3);
+        int start = upTo(3);
+        plain.pass(start);
+        keep.pass(start);
+        String name = "works " + number + " of " + text + sea;
+        int minutes = from(2, 12);
+        Checks.due(name + " pail", keep.pail(0, 1, minutes), plain.row(0, 2, 1, minutes));
+        Checks.due(name + " row", keep.row(0, 1, 1, minutes), plain.row(0, 1, 1, minutes));
+        Checks.due(name + " again", keep.again(0, 1, minutes), plain.again(0, 1, minutes));
+        int n = from(1, 8);
+        Checks.due(name + " stand", keep.stand(n, 2, minutes), plain.stand(n, 2, minutes));
+        int few = from(3, 4);
+        if (number % 8 == 0) {
+            Checks.due(name + " row", keep.row(0, few, 1, minutes), plain.row(0, few, 1, minutes));
         }
     }
 

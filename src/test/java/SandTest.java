@@ -1,5 +1,7 @@
 import java.util.ArrayList;
+import java.util.Arrays;
 import java.util.List;
+import java.util.Random;
 
 /** Promises 19 to 25: sand. */
 public final class SandTest {
@@ -11,6 +13,7 @@ public final class SandTest {
         rightsByStep();
         humps();
         next();
+        askedAndTold();
         Checks.finish("SandTest");
     }
 
@@ -180,10 +183,60 @@ public final class SandTest {
         return steep <= 1 + Math.max(0, top - loss * Math.abs(wet - best));
     }
 
+    private static int nextOf(List<int[]> fit) {
+        int least = fit.size();
+        int want = TideKeep.NONE;
+        for (int wet = 1; wet <= 15; wet++) {
+            for (int steep = 1; steep <= 30; steep++) {
+                int stand = 0;
+                for (int[] hump : fit) {
+                    stand += stands(hump[0], hump[1], hump[2], wet, steep) ? 1 : 0;
+                }
+                int greater = Math.max(stand, fit.size() - stand);
+                if (greater < least) {
+                    least = greater;
+                    want = 100 * wet + steep;
+                }
+            }
+        }
+        return want;
+    }
+
+    /** One asks what parts best and is told by a hidden hump, now and then by a drawn answer that is put right. */
+    private static void askedAndTold() {
+        Random random = new Random(8);
+        for (int run = 0; run < 40; run++) {
+            TideKeep keep = new TideKeep();
+            int[] hump = {1 + random.nextInt(15), random.nextInt(21), 1 + random.nextInt(5)};
+            int[][] tried = new int[0][];
+            for (int i = 0; i < 12; i++) {
+                List<int[]> fit = fitting(tried);
+                int question = nextOf(fit);
+                Checks.due("humps(" + i + ", 0)", keep.humps(i, 0), fit.size());
+                Checks.due("next()", keep.next(), question);
+                boolean isDrawn = question == TideKeep.NONE || random.nextInt(4) == 0;
+                int wet = isDrawn ? 1 + random.nextInt(15) : question / 100;
+                int steep = isDrawn ? 1 + random.nextInt(22) : question % 100;
+                int stood = stands(hump[0], hump[1], hump[2], wet, steep) ? 1 : 0;
+                boolean isWrong = random.nextInt(6) == 0;
+                Checks.due("trial", keep.trial(i, wet, steep, isWrong ? 1 - stood : stood), i);
+                tried = Arrays.copyOf(tried, i + 1);
+                tried[i] = new int[] {wet, steep, isWrong ? 1 - stood : stood};
+                if (isWrong && random.nextBoolean()) {
+                    Checks.due("humps before", keep.humps(i, 0), fitting(tried).size());
+                    Checks.due("right", keep.right(i, i, stood), 1);
+                    tried[i][2] = stood;
+                }
+            }
+        }
+    }
+
     private static final int[][][] TRIED = {{}, {{3, 2, 0}}, {{3, 2, 1}}, {{8, 10, 1}, {4, 6, 0}},
         {{8, 10, 1}, {4, 6, 0}, {12, 6, 0}, {8, 14, 0}, {9, 9, 1}}, {{7, 21, 1}}, {{1, 30, 0}, {15, 1, 1}},
         {{6, 12, 1}, {6, 13, 0}, {5, 11, 1}, {5, 12, 0}, {7, 11, 1}, {7, 12, 0}, {4, 10, 1}, {4, 11, 0}},
-        {{6, 12, 1}, {7, 12, 0}, {6, 12, 0}}};
+        {{6, 12, 1}, {7, 12, 0}, {6, 12, 0}},
+        {{1, 2, 0}, {2, 2, 0}, {3, 2, 0}, {4, 2, 0}, {5, 2, 0}, {6, 2, 0}, {7, 2, 0}, {8, 2, 0}, {9, 2, 0}, {10, 2, 0},
+            {11, 2, 0}}};
 
     private static void humps() {
         for (int[][] tried : TRIED) {
@@ -206,30 +259,14 @@ public final class SandTest {
     private static TideKeep told(int[][] tried) {
         TideKeep keep = new TideKeep();
         for (int i = 0; i < tried.length; i++) {
-            Checks.due("trial", keep.trial(100 * i, tried[i][0], tried[i][1], tried[i][2]), i);
+            Checks.due("trial", keep.trial(60 * i, tried[i][0], tried[i][1], tried[i][2]), i);
         }
         return keep;
     }
 
     private static void next() {
         for (int[][] tried : TRIED) {
-            List<int[]> fit = fitting(tried);
-            int least = fit.size();
-            int want = TideKeep.NONE;
-            for (int wet = 1; wet <= 15; wet++) {
-                for (int steep = 1; steep <= 30; steep++) {
-                    int stand = 0;
-                    for (int[] hump : fit) {
-                        stand += stands(hump[0], hump[1], hump[2], wet, steep) ? 1 : 0;
-                    }
-                    int greater = Math.max(stand, fit.size() - stand);
-                    if (greater < least) {
-                        least = greater;
-                        want = 100 * wet + steep;
-                    }
-                }
-            }
-            Checks.due("next()", told(tried).next(), want);
+            Checks.due("next()", told(tried).next(), nextOf(fitting(tried)));
         }
         TideKeep one = told(TRIED[7]);
         Checks.due("one hump is left", one.humps(999, 0), 1);

@@ -15,7 +15,48 @@ public final class ToldTest {
         toldAll();
         waves();
         acts();
+        oneAfterAnother();
+        cutOff();
         Checks.finish("ToldTest");
+    }
+
+    /** Each text is read as if it were the first, faults between them or not. */
+    private static void oneAfterAnother() {
+        TideKeep keep = new TideKeep();
+        for (int i = 0; i < 6; i++) {
+            Checks.due("beach " + i, Checks.beach(keep, "beach 3 2; sand 2; heap 30 1 1; stone 2 1; flag 0 0; flag 1 0;"), 6);
+            Checks.due("its clauses", keep.count(0), 6);
+            Checks.due("flags", keep.told(11), 2);
+            Checks.dueHeights(keep, " 2 2 2 2 32 2");
+            Checks.due("sea " + i, Checks.sea(keep, "wave 1 1 1; wave 2 2 2; cut 3;"), 3);
+            Checks.due("its clauses", keep.count(1), 3);
+            Checks.due("waves", keep.told(12), 2);
+            Checks.due("a plan", Checks.plan(keep, "hand rest rest; hand rest;"), 0);
+            Checks.due("its hands", keep.act(0, -1, 0, 0) * 10 + keep.act(0, 0, -1, 0), 22);
+            Checks.due("a bare beach", Checks.beach(keep, "damp 3;"), 1);
+            Checks.due("its clauses", keep.count(0), 1);
+            Checks.due("no flags", keep.told(11), 0);
+            Checks.due("a bare sea", Checks.sea(keep, ""), 0);
+            Checks.due("a fault", Checks.beach(keep, "flag 0 0; stone 0 0; heap 40 0 0; sand 3; sand"), TideKeep.NONE);
+            Checks.due("a fault", Checks.sea(keep, "wave 1 1 1; tide 1 2 3 4; cut 2; cut"), TideKeep.NONE);
+            Checks.due("a fault", Checks.plan(keep, "hand rest; hand rest; hand wet"), TideKeep.NONE);
+        }
+    }
+
+    /** Bytes that end() took away are not read. */
+    private static void cutOff() {
+        TideKeep keep = new TideKeep();
+        Checks.put(keep, "sand 55;");
+        keep.end(6);
+        Checks.due("a number is cut off", keep.beach(), TideKeep.NONE);
+        Checks.due("kind and place", keep.fault(0) * 100 + keep.fault(1), 106);
+        Checks.put(keep, "sand 5;");
+        keep.end(3);
+        Checks.put(keep, "d 5;");
+        Checks.due("a text in two parts", keep.beach(), 1);
+        Checks.put(keep, "cut 3;;;;;");
+        keep.end(6);
+        Checks.due("behind the end", keep.sea(), 1);
     }
 
     private static void newObject() {
@@ -412,7 +453,7 @@ public final class ToldTest {
             }
         }
         int[][] wrong = {{1, -1, 0, 0}, {-1, -1, 0, 0}, {0, 2, 0, 0}, {0, -2, 0, 0}, {0, 0, 2, 0}, {0, 0, -2, 0},
-            {0, 0, 0, 3}, {0, 0, 0, -1}, {3, 0, 0, 0}, {0, 4, -1, 0}};
+            {0, 0, 0, 3}, {0, 0, 0, -1}, {3, 0, 0, 0}, {0, 2, -1, 0}, {0, 4, -1, 0}};
         for (int[] call : wrong) {
             Checks.due("a wrong act", keep.act(call[0], call[1], call[2], call[3]), TideKeep.RANGE);
         }

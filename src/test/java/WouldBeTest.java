@@ -1,3 +1,6 @@
+import java.util.Arrays;
+import java.util.Random;
+
 /** Promises 26 to 35: what would be. */
 public final class WouldBeTest {
     // A tower's middle at y 1 that falls when it dries, by a flag that falls at once.
@@ -227,18 +230,9 @@ public final class WouldBeTest {
         int[][] calls = {{5, 2, 2, 3, 100}, {5, 2, 2, 3, 50}, {1, 1, 1, 1, 1}, {99, 1, 50, 50, 100}, {99, 1, 1, 1, 1},
             {99, 99, 1, 50, 100}, {99, 50, 7, 3, 80}, {30, 7, 2, 9, 33}, {12, 4, 5, 1, 60}, {40, 3, 9, 4, 99}};
         for (int[] call : calls) {
-            int soonest = Integer.MAX_VALUE;
-            int best = -1;
-            for (int j = 0; j < 100; j++) {
-                int done = doneFrom(j, call);
-                if (done < soonest) {
-                    soonest = done;
-                    best = j;
-                }
-            }
-            Checks.due("join's j", keepJoin(call, 0), best);
-            Checks.due("join's end", keepJoin(call, 1), soonest);
+            dueJoin(call);
         }
+        drawnJoins();
         Checks.due("by hand", keepJoin(new int[] {1, 1, 1, 1, 1}, 0), 1);
         Checks.due("by hand", keepJoin(new int[] {1, 1, 1, 1, 1}, 1), 1);
         int[][] wrong = {{0, 1, 1, 1, 1, 0}, {100, 1, 1, 1, 1, 0}, {1, 0, 1, 1, 1, 0}, {1, 100, 1, 1, 1, 0},
@@ -247,6 +241,29 @@ public final class WouldBeTest {
         for (int[] call : wrong) {
             Checks.due("wrong join", keepJoin(call, call[5]), TideKeep.RANGE);
         }
+    }
+
+    private static void drawnJoins() {
+        Random random = new Random(3);
+        for (int i = 0; i < 4000; i++) {
+            boolean isFew = i % 2 == 0;
+            dueJoin(new int[] {1 + random.nextInt(99), 1 + random.nextInt(isFew ? 9 : 99), 1 + random.nextInt(isFew ? 9 : 50),
+                1 + random.nextInt(isFew ? 9 : 50), 1 + random.nextInt(100)});
+        }
+    }
+
+    private static void dueJoin(int[] call) {
+        int soonest = Integer.MAX_VALUE;
+        int best = -1;
+        for (int j = 0; j < 100; j++) {
+            int done = doneFrom(j, call);
+            if (done < soonest) {
+                soonest = done;
+                best = j;
+            }
+        }
+        Checks.due("join's j of " + Arrays.toString(call), keepJoin(call, 0), best);
+        Checks.due("join's end of " + Arrays.toString(call), keepJoin(call, 1), soonest);
     }
 
     private static int keepJoin(int[] call, int what) {
