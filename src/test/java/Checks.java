@@ -14,6 +14,14 @@ final class Checks {
         }
     }
 
+    static int asked() {
+        return asked;
+    }
+
+    static int wrong() {
+        return wrong;
+    }
+
     /** Ends the test: exit code 1 if an answer was wrong, or if nothing was asked. */
     static void finish(String name) {
         System.out.println(name + ": " + asked + " answers, " + wrong + " not as due");
