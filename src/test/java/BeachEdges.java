@@ -363,7 +363,8 @@ final class BeachEdges {
     }
 
     private static void whatStays() {
-        TideKeep keep = Checks.on("beach 1 1; damp 1; dry 60;", "wave 0 1 2; cut 0; tide 1 2 1 39; reach 2 2; level 3 4;");
+        TideKeep keep = Checks.on("beach 1 1; damp 1; dry 60;",
+            "wave 0 1 2; cut 0; tide 1 2 1 39; reach 2 2; level 3 4;");
         keep.trial(3, 5, 21, 1);
         keep.right(4, 0, 0);
         keep.right(4, 0, 1);
@@ -380,18 +381,28 @@ final class BeachEdges {
         Checks.due("puttings RIGHT", keep.count(3), 2);
         Checks.due("humps that FIT", keep.humps(999, 0), 5);
         Edges.refused("a STEP that falls", keep.trial(3, 5, 5, 1));
-        // THE CHANCE of seed 1 draws 38, then (for REACH and LEVEL) 5758 and 10113, then 15 of a hundred.
-        keep.pass(2);
-        Checks.due("a told wave, and one drawn by the first number of seed 1", keep.sum(6), 2);
-        Checks.beach(keep, "beach 1 1; damp 1; dry 60;");
-        keep.pass(2);
-        Checks.due("THE CHANCE goes on where it was: 15 is below 39", keep.sum(6), 2);
-        Checks.beach(keep, "beach 1 1; damp 1; dry 60;");
-        keep.pass(3);
+        dueChanceStays();
+    }
+
+    /** A hundred minutes of a tide on each of three beaches, one behind another. */
+    private static void dueChanceStays() {
+        TideKeep keep = Checks.on("", "tide 0 99 1 50;");
         long chance = 1;
-        for (int i = 0; i < 7; i++) {
-            chance = Checks.step(chance);
+        int together = 0;
+        for (int round = 0; round < 3; round++) {
+            Checks.beach(keep, "beach 1 1;");
+            keep.pass(100);
+            int came = 0;
+            for (int minute = 0; minute < 100; minute++) {
+                chance = Checks.step(chance);
+                if (chance / 65536 % 100 < 50) {
+                    came++;
+                    chance = Checks.step(Checks.step(chance));
+                }
+            }
+            Checks.due("WAVES of beach " + round, keep.sum(6), came);
+            together += came;
         }
-        Checks.due("and further on", keep.sum(6) > 1 ? 1 : 0, chance / 65536 % 100 < 39 ? 1 : 0);
+        Checks.due("they are not three times the same", together != 3 * Checks.wavesBy(1, 100, 50) ? 1 : 0, 1);
     }
 }

@@ -98,4 +98,18 @@ final class Checks {
     static long step(long chance) {
         return (1103515245L * chance + 12345L) % 2147483648L;
     }
+
+    /** How many WAVES come by a seed in so many minutes of a tide, of each hundred so many. */
+    static int wavesBy(long seed, int minutes, int percent) {
+        int came = 0;
+        long chance = seed;
+        for (int i = 0; i < minutes; i++) {
+            chance = step(chance);
+            if (chance / 65536 % 100 < percent) {
+                came++;
+                chance = step(step(chance));
+            }
+        }
+        return came;
+    }
 }

@@ -24,7 +24,8 @@ final class ContestEdges {
         Edges.edge("Terms III", "the CELL with the greatest sum of LAST over seeds 1 .. k in TRIALS without a PLAN; then the least",
             ContestEdges::standBySeeds);
         Edges.edge("Terms III", "and a FLAG of its own", ContestEdges::flagOfItsOwn);
-        Edges.edge("Promise 30", "STAND of a tower of n units by seeds 1 .. k (1 .. 9): the CELL", ContestEdges::standAnywhere);
+        Edges.edge("Promise 30", "STAND of a tower of n units by seeds 1 .. k (1 .. 9): the CELL",
+            ContestEdges::standAnywhere);
         Edges.edge("Promise 30", "NONE: there is a STONE at all", ContestEdges::stonesEverywhere);
         Edges.edge("Promise 30", "NONE: there is a STONE at all; RANGE", ContestEdges::wrongStand);
     }
@@ -37,14 +38,17 @@ final class ContestEdges {
         Edges.edge("Promise 31", "RANGE: also alike ones", ContestEdges::wrongOutlasts);
         Edges.edge("Terms III", "of all PLANS that which has the greatest sum over seeds 1 .. k of LAST of FLAG 0 (rule 0)",
             ContestEdges::contestByLast);
-        Edges.edge("Terms III", "or of HEIGHT of its CELL at the end (1); then the least", ContestEdges::contestByHeight);
-        Edges.edge("Promise 32", "CONTEST by a rule (0, 1), seeds 1 .. k (1 .. 9): the PLAN; RANGE", ContestEdges::wrongContest);
+        Edges.edge("Terms III", "or of HEIGHT of its CELL at the end (1); then the least",
+            ContestEdges::contestByHeight);
+        Edges.edge("Promise 32", "CONTEST by a rule (0, 1), seeds 1 .. k (1 .. 9): the PLAN; RANGE",
+            ContestEdges::wrongContest);
         Edges.edge("Promise 32", "RANGE; STATE: there are no FLAGS; NONE: there are no PLANS (in this order)",
             ContestEdges::noContest);
     }
 
     private static void waves() {
-        Edges.edge("Terms III", "a told WAVE by its number alone (and SLIDES behind it) on how things are now", ContestEdges::waveAlone);
+        Edges.edge("Terms III", "a told WAVE by its number alone (and SLIDES behind it) on how things are now",
+            ContestEdges::waveAlone);
         Edges.edge("Promise 33", "THE TAPE is HEIGHTS, a byte for each CELL (32 and HEIGHT, 126 at most)",
             ContestEdges::bytesOfHeights);
         Edges.edge("Terms III", "whether HEIGHTS are as told then", ContestEdges::heightsAlone);
@@ -54,7 +58,8 @@ final class ContestEdges {
     }
 
     private static void joins() {
-        Edges.edge("Terms III", "to each side h less a, less 2 a, .., as long as that is above 0", ContestEdges::towers);
+        Edges.edge("Terms III", "to each side h less a, less 2 a, .., as long as that is above 0",
+            ContestEdges::towers);
         Edges.edge("Terms III", "what is left times 100, over (r and s) times c, rounded up", ContestEdges::roundedUp);
         Edges.edge("Terms III", "(at j, if nothing is left)", ContestEdges::nothingLeft);
         Edges.edge("Terms III", "the j (0 .. 99) with the least of these; then the least j", ContestEdges::leastMinute);
@@ -137,7 +142,8 @@ final class ContestEdges {
 
     private static void flagOfItsOwn() {
         // All three flags that are told fell already; the tower's own has not.
-        TideKeep keep = Checks.on("beach 3 2; sand 3; flag 0 0; flag 1 0; flag 2 0; fall 0;" + FIRM, "wave 0 1 2; cut 3;");
+        TideKeep keep = Checks.on("beach 3 2; sand 3; flag 0 0; flag 1 0; flag 2 0; fall 0;" + FIRM,
+            "wave 0 1 2; cut 3;");
         keep.pass(1);
         Checks.due("they fell", keep.flag(0, 0) + keep.flag(1, 0) + keep.flag(2, 0), 0);
         Checks.due("at the first cell, with a flag that fell", keep.stand(1, 1, 9), 0);
@@ -333,7 +339,8 @@ final class ContestEdges {
         keep.pass(51);
         Checks.due("on how things are now", Checks.which(keep, "!!"), 0);
         Checks.due("2 is not above 2", Checks.which(keep, "\"\""), 0b111);
-        TideKeep slides = Checks.on("beach 2 1; sand 1; heap 2 0 0; hump 4 20 0; damp 4; dry 1; pack 0;", "wave 5 1 9; cut 0;");
+        TideKeep slides = Checks.on("beach 2 1; sand 1; heap 2 0 0; hump 4 20 0; damp 4; dry 1; pack 0;",
+            "wave 5 1 9; cut 0;");
         Checks.due("SLIDES behind it", Checks.which(slides, "\"\""), 1);
         Checks.due("not without", Checks.which(slides, "#!"), 0);
         TideKeep tide = Checks.on("beach 1 1; sand 3;" + FIRM, "wave 9 1 9; tide 0 9 1 100; level 0 0;");
@@ -413,7 +420,8 @@ final class ContestEdges {
 
     private static void towers() {
         // Alone it takes a unit a minute, and joined at once just as long: done tells how many units it has.
-        int[][] towers = {{1, 1, 1}, {2, 1, 4}, {3, 1, 9}, {4, 2, 8}, {5, 2, 13}, {6, 3, 12}, {7, 3, 17}, {9, 9, 9}, {9, 10, 9},
+        int[][] towers = {{1, 1, 1}, {2, 1, 4}, {3, 1, 9}, {4, 2, 8}, {5, 2, 13}, {6, 3, 12}, {7, 3, 17}, {9, 9, 9},
+            {9, 10, 9},
             {10, 9, 12}, {50, 49, 52}, {99, 99, 99}, {99, 98, 101}, {10, 1, 100}, {99, 1, 9801}};
         for (int[] tower : towers) {
             dueJoin(new int[] {tower[0], tower[1], 1, 1, 100}, 0, tower[2]);

@@ -10,10 +10,12 @@ final class FaultEdges {
         Edges.edge("Terms I", "1 SYNTAX: a TOKEN (or byte that is none, a run that is too long) with which no text goes on",
             FaultEdges::syntax);
         Edges.edge("Terms I", "2 RANGE: an N out of its bounds", FaultEdges::range);
-        Edges.edge("Terms I", "(also a heap with which there are more than 59 units by heaps: at its y)", FaultEdges::heaps);
+        Edges.edge("Terms I", "(also a heap with which there are more than 59 units by heaps: at its y)",
+            FaultEdges::heaps);
         Edges.edge("Terms I", "3 TWICE: beach, sand, pack, dry, damp, fall, tire, hump, tide, reach, level, cut again",
             FaultEdges::again);
-        Edges.edge("Terms I", "a stone at a CELL with a stone, a flag at one with a flag (at its y)", FaultEdges::samePlace);
+        Edges.edge("Terms I", "a stone at a CELL with a stone, a flag at one with a flag (at its y)",
+            FaultEdges::samePlace);
         Edges.edge("Terms I", "the y of a dig to the CELL from which it is", FaultEdges::digToItself);
         Edges.edge("Terms I", "4 ROOM: a FLAG, wave, hand too many, at its first WORD", FaultEdges::room);
         Edges.edge("Terms I", "the ninth ACT of a hand, at its WORD", FaultEdges::ninthAct);
@@ -126,7 +128,8 @@ final class FaultEdges {
     }
 
     private static void again() {
-        String[] ofBeach = {"beach 2 2;", "sand 1;", "pack 1;", "dry 1;", "damp 1;", "fall 1;", "tire 1;", "hump 1 1 1;"};
+        String[] ofBeach = {"beach 2 2;", "sand 1;", "pack 1;", "dry 1;", "damp 1;", "fall 1;", "tire 1;",
+            "hump 1 1 1;"};
         for (String clause : ofBeach) {
             Edges.beachFault(clause + clause, 3, clause.length());
             Edges.beachFault(clause + "heap 1 0 0;" + clause, 3, clause.length() + 11);
@@ -276,7 +279,8 @@ final class FaultEdges {
     private static void toldSea() {
         TideKeep keep = new TideKeep();
         int[][] seas = {{1, 1, 0, 0, 0}, {8, 8, 99, 99, 9}, {1, 8, 0, 99, 5}, {1, 3, 4, 8, 1}};
-        String[] texts = {"reach 1 1; level 0 0; cut 0;", "reach 8 8; level 99 99; cut 9;", "reach 1 8; level 0 99; cut 5;", ""};
+        String[] texts = {"reach 1 1; level 0 0; cut 0;", "reach 8 8; level 99 99; cut 9;",
+            "reach 1 8; level 0 99; cut 5;", ""};
         for (int i = 0; i < texts.length; i++) {
             Checks.due("sea()", Checks.sea(keep, texts[i]) < 0 ? 0 : 1, 1);
             for (int what = 17; what <= 21; what++) {

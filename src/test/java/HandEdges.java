@@ -7,7 +7,8 @@ final class HandEdges {
     }
 
     static void all() {
-        Edges.edge("Terms II", "A CELL (numbered columns times y, and x; y 0 is nearest to the sea)", HandEdges::cellNumbers);
+        Edges.edge("Terms II", "A CELL (numbered columns times y, and x; y 0 is nearest to the sea)",
+            HandEdges::cellNumbers);
         Edges.edge("Terms II", "has HEIGHT, WET 0 .. 16, PACK 0 .. 4, and perhaps a STONE", HandEdges::bounds);
         Edges.edge("Terms II", "HEIGHT one less and one more", HandEdges::heights);
         Edges.edge("Terms II", "WET of the other becomes (its WET times its HEIGHT ahead of that, and WET of the one) over"
@@ -16,7 +17,8 @@ final class HandEdges {
         Edges.edge("Terms II", "HANDS of the PLAN that holds, by numbers", HandEdges::byNumbers);
         Edges.edge("Terms II", "each does its next ACT, and behind its last one the first again, as long as the PLAN holds",
             HandEdges::firstAgain);
-        Edges.edge("Terms II", "dig: a UNIT GOES (nothing, if there is none, or a STONE at one of both)", HandEdges::noDig);
+        Edges.edge("Terms II", "dig: a UNIT GOES (nothing, if there is none, or a STONE at one of both)",
+            HandEdges::noDig);
         Edges.edge("Terms II", "and PACK of the CELL from which it came becomes 0", HandEdges::packOfOne);
         Edges.edge("Terms II", "pack: PACK one more, 4 at most", HandEdges::packAtMost);
         Edges.edge("Terms II", "wet: WET four more, 15 at most", HandEdges::wetAtMost);
@@ -59,7 +61,8 @@ final class HandEdges {
 
     /** Whatever hands, waves and the sun do, WET and PACK stay in their bounds, and reach both ends. */
     private static void bounds() {
-        TideKeep keep = Checks.on("beach 2 2; sand 12; damp 3; dry 1; pack 0;", "tide 12 30 1 100; reach 2 2; level 0 99;");
+        TideKeep keep = Checks.on("beach 2 2; sand 12; damp 3; dry 1; pack 0;",
+            "tide 12 30 1 100; reach 2 2; level 0 99;");
         Checks.plan(keep, "hand pack 0 0 wet 0 1 wet 0 1;hand wet 1 1 wall 1 0 pack 1 1;hand pack 0 0;hand dig 0 0 0 1;");
         int wets = 0;
         int packs = 0;
@@ -155,7 +158,8 @@ final class HandEdges {
 
     private static void noDig() {
         String plan = "hand pack 0 0 pack 1 0 dig 0 0 1 0;";
-        String[] beaches = {"beach 2 1; sand 0; heap 5 1 0;", "beach 2 1; sand 3; stone 0 0;", "beach 2 1; sand 3; stone 1 0;",
+        String[] beaches = {"beach 2 1; sand 0; heap 5 1 0;", "beach 2 1; sand 3; stone 0 0;",
+            "beach 2 1; sand 3; stone 1 0;",
             "beach 2 1; sand 3; stone 0 0; stone 1 0;"};
         String[] heights = {" 0 5", " 3 3", " 3 3", " 3 3"};
         for (int i = 0; i < beaches.length; i++) {
@@ -168,7 +172,8 @@ final class HandEdges {
     }
 
     private static void packOfOne() {
-        TideKeep keep = worked("beach 2 1; sand 3; pack 5; hump 8 20 0; damp 8; dry 60;", "hand pack 0 0 pack 0 0 dig 0 0 1 0;", 2);
+        TideKeep keep = worked("beach 2 1; sand 3; pack 5; hump 8 20 0; damp 8; dry 60;",
+            "hand pack 0 0 pack 0 0 dig 0 0 1 0;", 2);
         Checks.due("ahead of the dig", keep.cell(0, 0, 2), 2);
         keep.pass(1);
         Checks.due("behind the dig", keep.cell(0, 0, 2), 0);
@@ -237,7 +242,7 @@ final class HandEdges {
             Checks.due("tire 20, behind " + minutes[i], dug(20, dig, minutes[i]), byTwenty[i]);
         }
         Checks.due("the ACT that is next comes behind the rest", dug(2, "hand dig 0 0 2 0 rest dig 0 0 2 0;", 4), 2);
-        Checks.due("a rest told is an ACT, too", dug(2, "hand rest dig 0 0 2 0;", 3), 1);
+        Checks.due("a rest told is an ACT, too", dug(2, "hand rest dig 0 0 2 0;", 4), 1);
         Checks.due("a rest told is an ACT, too", dug(2, "hand rest dig 0 0 2 0;", 5), 2);
         Checks.due("a dig that does nothing, too", dug(1, "hand dig 1 0 0 0 dig 0 0 2 0;", 3), 1);
         TideKeep two = worked("beach 2 1; tire 2;" + FIRM, "hand pack 0 0;hand pack 1 0;", 4);

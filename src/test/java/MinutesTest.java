@@ -42,26 +42,13 @@ public final class MinutesTest {
             Checks.beach(keep, "");
             keep.chance(seed);
             keep.pass(100);
-            Checks.due("waves by seed " + seed, keep.sum(6), wavesBy(seed, 100, 50));
+            Checks.due("waves by seed " + seed, keep.sum(6), Checks.wavesBy(seed, 100, 50));
         }
         TideKeep first = new TideKeep();
         Checks.sea(first, "tide 0 359 1 30; reach 1 1; level 99 99; cut 0;");
         first.chance(-7);
         first.pass(200);
-        Checks.due("waves by the first seed", first.sum(6), wavesBy(1, 200, 30));
-    }
-
-    private static int wavesBy(long seed, int minutes, int percent) {
-        int came = 0;
-        long chance = seed;
-        for (int i = 0; i < minutes; i++) {
-            chance = Checks.step(chance);
-            if (chance / 65536 % 100 < percent) {
-                came++;
-                chance = Checks.step(Checks.step(chance));
-            }
-        }
-        return came;
+        Checks.due("waves by the first seed", first.sum(6), Checks.wavesBy(1, 200, 30));
     }
 
     private static void tideMinutes() {

@@ -6,7 +6,8 @@ final class PlanEdges {
     static void all() {
         Edges.edge("Terms I", "A PLAN is a text = {clause \";\"}", PlanEdges::text);
         Edges.edge("Terms I", "clause = \"hand\" ACT {ACT}", PlanEdges::hand);
-        Edges.edge("Terms I", "ACT = \"dig\" N N N N | (\"pack\" | \"wet\" | \"wall\") N N | \"rest\"", PlanEdges::acts);
+        Edges.edge("Terms I", "ACT = \"dig\" N N N N | (\"pack\" | \"wet\" | \"wall\") N N | \"rest\"",
+            PlanEdges::acts);
         Edges.edge("Terms I", "At most 4 HANDS", PlanEdges::fourHands);
         Edges.edge("Terms I", "each of at most 8 ACTS", PlanEdges::eightActs);
         Edges.edge("Terms I", "N as x and y of CELLS", PlanEdges::cells);

@@ -28,7 +28,8 @@ final class SandEdges {
 
     private static void tried() {
         Edges.edge("Terms III", "TRIED, at most 16, numbered from 0", SandEdges::sixteen);
-        Edges.edge("Terms III", "sand of a WET 1 .. 15 stood as steep as 1 .. 30 (1) or not (0)", SandEdges::triedBounds);
+        Edges.edge("Terms III", "sand of a WET 1 .. 15 stood as steep as 1 .. 30 (1) or not (0)",
+            SandEdges::triedBounds);
         Edges.edge("Terms III", "it stands just if that is at most 1 and STRENGTH", SandEdges::stands);
         Edges.edge("Terms III", "told at a STEP of telling (0 .. 999, never falling; of TRIED and RIGHT together)",
             SandEdges::steps);
@@ -39,7 +40,8 @@ final class SandEdges {
     }
 
     private static void humps() {
-        Edges.edge("Terms III", "HUMPS: best 1 .. 15, top 0 .. 20, loss 1 .. 5, hidden from here on", SandEdges::allHumps);
+        Edges.edge("Terms III", "HUMPS: best 1 .. 15, top 0 .. 20, loss 1 .. 5, hidden from here on",
+            SandEdges::allHumps);
         Edges.edge("Terms III", "FIT as known at a STEP", SandEdges::asKnown);
         Edges.edge("Promise 24", "what 0: how many, 1: the least best (NONE), 2: the greatest best (NONE),"
             + " 3: the least top (NONE), 4: the greatest top (NONE)", SandEdges::leastAndGreatest);

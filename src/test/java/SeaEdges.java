@@ -234,7 +234,8 @@ final class SeaEdges {
         for (int round = 0; round < 3; round++) {
             Checks.due("two", Checks.sea(keep, "wave 5 5 5; wave 6 6 6;"), 2);
             Checks.due("waves", keep.told(12), 2);
-            Checks.due("what isn't told", keep.told(13) + keep.told(17) + keep.told(20) + keep.told(21), -1 + 1 + 8 + 1);
+            Checks.due("what isn't told", keep.told(13) + keep.told(17) + keep.told(20) + keep.told(21),
+                -1 + 1 + 8 + 1);
             Checks.due("four", Checks.sea(keep, "tide 1 2 3 4; reach 5 6; level 7 9; cut 9;"), 4);
             Checks.due("no waves", keep.told(12), 0);
             Edges.refused("no wave", keep.wave(0, 0));

@@ -31,9 +31,11 @@ final class SlideEdges {
         Edges.edge("Terms II", "ROUNDS, at most 50", SlideEdges::fiftyRounds);
         Edges.edge("Terms II", "in each CELLS by numbers", SlideEdges::cellsByNumbers);
         Edges.edge("Terms II", "if it has no STONE: of the CELLS beside it", SlideEdges::underStone);
-        Edges.edge("Terms II", "of the CELLS beside it (four at most) that have no STONE the lowest", SlideEdges::beside);
+        Edges.edge("Terms II", "of the CELLS beside it (four at most) that have no STONE the lowest",
+            SlideEdges::beside);
         Edges.edge("Terms II", "(of alike ones the least number)", SlideEdges::leastNumber);
-        Edges.edge("Terms II", "if its HEIGHT is more than HOLDS above that, a UNIT GOES there", SlideEdges::moreThanHolds);
+        Edges.edge("Terms II", "if its HEIGHT is more than HOLDS above that, a UNIT GOES there",
+            SlideEdges::moreThanHolds);
         Edges.edge("Terms II", "They end with a ROUND in which none went", SlideEdges::end);
         Edges.edge("Terms II", "(4) SLIDES: ROUNDS", SlideEdges::eachMinute);
     }
@@ -199,8 +201,10 @@ final class SlideEdges {
         // Not beside: across a corner, the end of a row and the start of the next, beyond the beach.
         Checks.dueHeights(behind("beach 2 2; sand 0; heap 9 0 0; stone 1 0; stone 0 1;" + LOOSE, "", 1), " 9 0 0 0");
         Checks.dueHeights(behind("beach 2 2; sand 0; heap 9 1 1; stone 1 0; stone 0 1;" + LOOSE, "", 1), " 0 0 0 9");
-        Checks.dueHeights(behind("beach 3 2; sand 0; heap 9 2 0; stone 1 0; stone 2 1;" + LOOSE, "", 1), " 0 0 9 0 0 0");
-        Checks.dueHeights(behind("beach 3 2; sand 0; heap 9 0 1; stone 0 0; stone 1 1;" + LOOSE, "", 1), " 0 0 0 9 0 0");
+        Checks.dueHeights(behind("beach 3 2; sand 0; heap 9 2 0; stone 1 0; stone 2 1;" + LOOSE, "", 1),
+            " 0 0 9 0 0 0");
+        Checks.dueHeights(behind("beach 3 2; sand 0; heap 9 0 1; stone 0 0; stone 1 1;" + LOOSE, "", 1),
+            " 0 0 0 9 0 0");
         TideKeep corner = behind("beach 8 8; sand 0; heap 9 7 7; stone 6 7; stone 7 6; heap 9 0 0; stone 1 0; stone 0 1;"
             + LOOSE, "", 1);
         Checks.due("the corners", corner.cell(7, 7, 0) * 10 + corner.cell(0, 0, 0), 99);
@@ -227,10 +231,12 @@ final class SlideEdges {
         Checks.dueHeights(behind("beach 2 1; sand 0; heap 22 1 0;" + FIRM, "", 1), " 1 21");
         packHolds();
         // Wet of 16 and of 0 holds 1 alone, whatever the hump.
-        Checks.dueHeights(behind("beach 2 1; sand 0; heap 3 0 0; hump 8 20 0; damp 16; dry 60; pack 0;", "", 1), " 2 1");
+        Checks.dueHeights(behind("beach 2 1; sand 0; heap 3 0 0; hump 8 20 0; damp 16; dry 60; pack 0;", "", 1),
+            " 2 1");
         Checks.dueHeights(behind("beach 2 1; sand 0; heap 3 0 0; hump 8 20 0; damp 0; dry 60; pack 0;", "", 1), " 2 1");
         Checks.dueHeights(behind("beach 2 1; sand 0; heap 3 0 0; hump 8 20 0; damp 1; dry 60; pack 0;", "", 1), " 3 0");
-        Checks.dueHeights(behind("beach 2 1; sand 0; heap 3 0 0; hump 8 20 0; damp 15; dry 60; pack 0;", "", 1), " 3 0");
+        Checks.dueHeights(behind("beach 2 1; sand 0; heap 3 0 0; hump 8 20 0; damp 15; dry 60; pack 0;", "", 1),
+            " 3 0");
     }
 
     /** HOLDS of the cell from which it goes counts, its PACK with it. */
@@ -322,7 +328,8 @@ final class SlideEdges {
     }
 
     private static void flag() {
-        TideKeep keep = Checks.on("beach 3 2; sand 4; heap 3 2 1; fall 0; flag 2 1; flag 0 0;" + FIRM, "wave 1 1 3; cut 1;");
+        TideKeep keep = Checks.on("beach 3 2; sand 4; heap 3 2 1; fall 0; flag 2 1; flag 0 0;" + FIRM,
+            "wave 1 1 3; cut 1;");
         int[][] up = {{1, 5, 7}, {1, 0, 4}};
         int[][] down = {{1, 5, 7}, {0, 0, 4}};
         for (int k = 0; k < 2; k++) {

@@ -16,7 +16,8 @@ final class SlotEdges {
         Edges.edge("Promise 13", "the minute that comes; RANGE", SlotEdges::wrongMinutes);
         Edges.edge("Promise 16", "What 0: HEIGHTS together, 1: LOST, 2: the minute that comes, 3: UNITS that slid in all",
             SlotEdges::sums);
-        Edges.edge("Promise 16", "4: in the latest MINUTE (0), 5: ROUNDS in which some did, in it (0)", SlotEdges::latestMinute);
+        Edges.edge("Promise 16", "4: in the latest MINUTE (0), 5: ROUNDS in which some did, in it (0)",
+            SlotEdges::latestMinute);
         Edges.edge("Promise 16", "6: WAVES that came in all", SlotEdges::wavesInAll);
         Edges.edge("Promise 16", "NONE for others", SlotEdges::otherSums);
         Edges.edge("Promise 17", "A SLOT (0 .. 2) keeps all that minutes change, the PLAN that holds, THE CHANCE:"
@@ -63,7 +64,8 @@ final class SlotEdges {
     }
 
     private static void beyond() {
-        TideKeep keep = Checks.on("beach 1 2; sand 3; damp 16; dry 60;", "wave 0 1 9; wave 359 1 9; tide 300 359 1 100; reach 1 1;");
+        TideKeep keep = Checks.on("beach 1 2; sand 3; damp 16; dry 60;",
+            "wave 0 1 9; wave 359 1 9; tide 300 359 1 100; reach 1 1;");
         Checks.due("pass(359)", keep.pass(359), 359);
         Checks.due("WAVES", keep.sum(6), 1 + 59);
         Checks.due("minute 359", keep.pass(1), 360);
@@ -90,12 +92,13 @@ final class SlotEdges {
     }
 
     private static void sums() {
-        TideKeep keep = Checks.on("beach 2 2; sand 3; heap 5 1 1; hump 8 0 0; damp 8; dry 60; pack 0;", "wave 0 1 2; cut 1;");
+        TideKeep keep = Checks.on("beach 2 2; sand 3; heap 5 1 1; hump 8 0 0; damp 8; dry 60; pack 0;",
+            "wave 0 1 2; cut 1;");
         int[] first = {17, 0, 0, 0, 0, 0, 0};
         for (int what = 0; what <= 6; what++) {
             Checks.due("sum(" + what + ")", keep.sum(what), first[what]);
         }
-        // Behind the wave 2 2 3 8: the heap slides to 4 4 3 4 at most; whatever slid, 15 are left and 2 are LOST.
+        // Behind the wave there are 2 2 3 8: however they slide, 15 are left and 2 are LOST.
         Checks.due("pass(1)", keep.pass(1), 1);
         Checks.due("HEIGHTS together", keep.sum(0), 15);
         Checks.due("LOST", keep.sum(1), 2);
@@ -228,7 +231,8 @@ final class SlotEdges {
         keep.trial(5, 5, 5, 1);
         Checks.plan(keep, "hand rest;");
         Checks.due("take(1)", keep.take(1), 0);
-        Checks.due("the SEA, TRIED and PLANS are none of that", keep.told(13) + keep.count(2) * 10 + keep.told(22) * 100, 109);
+        Checks.due("the SEA, TRIED and PLANS are none of that",
+            keep.told(13) + keep.count(2) * 10 + keep.told(22) * 100, 109);
     }
 
     private static void wrongTake() {

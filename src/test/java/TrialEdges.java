@@ -16,7 +16,8 @@ final class TrialEdges {
     }
 
     private static void lasts() {
-        Edges.edge("Terms III", "A TRIAL goes on from how things are now for so many MINUTES (1 .. 99)", TrialEdges::minutes);
+        Edges.edge("Terms III", "A TRIAL goes on from how things are now for so many MINUTES (1 .. 99)",
+            TrialEdges::minutes);
         Edges.edge("Terms III", "with a PLAN or none (from its HANDS' first ACTS)", TrialEdges::withPlan);
         Edges.edge("Terms III", "THE CHANCE by a seed", TrialEdges::bySeed);
         Edges.edge("Terms III", "how many of these MINUTES it stands behind (all of them, if it does not fall;"
@@ -37,7 +38,8 @@ final class TrialEdges {
         Edges.edge("Terms III", "NEXT PAIL: the ROW of two with the greatest LAST; then the least (16 ROWS)",
             TrialEdges::sixteenRows);
         Edges.edge("Terms III", "BEST ROW of n (1 .. 4) likewise", TrialEdges::bestRows);
-        Edges.edge("Promise 27", "NEXT PAIL for a FLAG: 10 times the first WORK, and the second; RANGE", TrialEdges::wrongPail);
+        Edges.edge("Promise 27", "NEXT PAIL for a FLAG: 10 times the first WORK, and the second; RANGE",
+            TrialEdges::wrongPail);
         Edges.edge("Promise 28", "BEST ROW of n WORKS for a FLAG: its numbers as digits, the first one first; RANGE",
             TrialEdges::wrongRow);
     }
@@ -61,17 +63,12 @@ final class TrialEdges {
         Checks.due("thirty minutes later", keep.last(0, -1, 1, 99), 20);
         keep.pass(20);
         Checks.due("in the minute of the wave", keep.last(0, -1, 1, 99), 0);
-        keep.take(0);
         TideKeep far = Checks.on(CUT, "wave 98 1 0; wave 99 1 0;");
         Checks.due("the 99th minute counts", far.last(0, -1, 1, 99), 98);
         far.pass(360);
         Checks.due("it fell", far.last(0, -1, 1, 99), 0);
-        TideKeep late = Checks.on(CUT, "wave 0 1 0; wave 99 1 0;");
-        late.keep(0);
-        Checks.sea(late, "wave 99 1 0;");
+        TideKeep late = Checks.on(CUT, "wave 99 1 0;");
         Checks.due("the hundredth does not", late.last(0, -1, 1, 99), 99);
-        late.pass(300);
-        Checks.due("LOST", late.sum(1), 1);
         TideKeep beyond = Checks.on(CUT, "wave 0 1 9;");
         beyond.pass(360);
         Checks.due("beyond 359", beyond.last(0, -1, 1, 99), 99);
@@ -132,10 +129,14 @@ final class TrialEdges {
         Checks.plan(fallen, "hand rest;");
         fallen.pass(1);
         Checks.due("it fell already", fallen.last(0, -1, 1, 5) + fallen.last(0, 0, 7, 99), 0);
-        TideKeep built = Checks.on("beach 2 1; sand 5; fall 0; flag 0 0;" + FIRM, "wave 0 1 4; cut 1;");
-        Checks.plan(built, "hand rest dig 1 0 0 0;");
+        TideKeep built = Checks.on("beach 2 1; sand 5; fall 0; flag 0 0;" + FIRM, "");
+        Checks.plan(built, "hand dig 0 0 1 0 dig 1 0 0 0 dig 1 0 0 0 rest rest rest rest rest;");
+        built.work(0);
         built.pass(1);
-        Checks.due("it fell, though its CELL grows again", built.last(0, 0, 1, 5), 0);
+        Checks.due("it fell", built.last(0, -1, 1, 5), 0);
+        built.pass(2);
+        Checks.due("its CELL is higher than ever", built.cell(0, 0, 0), 6);
+        Checks.due("but it fell", built.last(0, -1, 1, 5) + built.last(0, 0, 1, 5), 0);
         TideKeep edge = Checks.on("beach 1 1; sand 5; fall 2; flag 0 0;" + FIRM,
             "wave 0 1 0; wave 1 1 0; wave 2 1 0; cut 1;");
         Checks.due("as low as fall lets it, it stands", edge.last(0, -1, 1, 2), 2);
@@ -182,14 +183,17 @@ final class TrialEdges {
 
     /** In each of these beaches one work alone lets the flag last longest. */
     private static void fourWorks() {
-        dueRow("beach 1 3; sand 3; fall 0; damp 5; dry 1; hump 8 4 1; pack 0; heap 5 0 2; flag 0 2;", "", new int[] {1, 8}, 0);
+        dueRow("beach 1 3; sand 3; fall 0; damp 5; dry 1; hump 8 4 1; pack 0; heap 5 0 2; flag 0 2;", "",
+            new int[] {1, 8}, 0);
         dueRow("beach 1 3; sand 1; fall 1; damp 5; dry 4; hump 7 3 1; pack 0; heap 5 0 1; flag 0 1; heap 4 0 0;", "",
             new int[] {1, 7}, 1);
         dueRow("beach 2 3; sand 4; fall 0; damp 5; dry 4; hump 2 7 1; pack 0; heap 3 0 1; flag 0 1;", "wave 0 3 3;",
             new int[] {1, 9}, 2);
-        dueRow("beach 2 2; sand 3; fall 0; damp 2; dry 2; hump 8 8 2; pack 0; heap 3 0 1; flag 0 1;", "", new int[] {1, 6}, 3);
-        // A wall stands between, so that the wave stops: by that alone (03, as the wet that comes later does nothing).
-        TideKeep wall = Checks.on("beach 1 2; sand 1; heap 2 0 1; flag 0 1; fall 0;" + FIRM, "wave 0 2 1; wave 1 2 1; cut 3;");
+        dueRow("beach 2 2; sand 3; fall 0; damp 2; dry 2; hump 8 8 2; pack 0; heap 3 0 1; flag 0 1;", "",
+            new int[] {1, 6}, 3);
+        // A wall stands between, so that the waves stop.
+        TideKeep wall = Checks.on("beach 1 2; sand 1; heap 2 0 1; flag 0 1; fall 0;" + FIRM,
+            "wave 0 2 1; wave 1 2 1; cut 3;");
         Checks.due("without", wall.last(0, -1, 1, 9), 0);
         Checks.plan(wall, "hand wall 0 0;");
         Checks.due("with a wall", wall.last(0, 0, 1, 9), 9);
@@ -207,10 +211,10 @@ final class TrialEdges {
         dueRow("beach 3 2; sand 3; flag 1 0; fall 0;" + FIRM, "wave 0 1 0;", new int[] {1, 5}, 2);
         dueRow("beach 3 2; sand 1; heap 2 1 1; heap 1 0 1; heap 1 2 1; flag 1 1; fall 0;" + FIRM,
             "wave 0 2 1; wave 0 2 1; cut 1;", new int[] {1, 1}, 0);
-        TideKeep last = Checks.on("beach 8 8; sand 3; flag 7 7; fall 0; stone 7 6;" + FIRM, "");
-        Checks.plan(last, "hand dig 7 7 6 7;");
-        last.pass(1);
-        Checks.due("at the last cell, with a stone ahead of it", last.row(0, 4, 1, 9), 0);
+        // At the last y all else is stone: by a unit more from behind the flag would lose one and stand.
+        String sliding = "stone 0 0; stone 1 0; flag 0 1; fall 0; hump 8 0 0; pack 0;";
+        dueRow("beach 2 2; sand 1; heap 2 0 1;" + sliding, "", new int[] {1, 5}, 0);
+        dueRow("beach 2 2; sand 1; heap 2 0 1;" + sliding, "", new int[] {4, 5}, 0);
         // Wall and dig ahead of y 0 must not reach the cell with the greatest numbers either.
         TideKeep first = Checks.on("beach 2 2; sand 3; heap 9 0 1; stone 1 0; flag 0 0; fall 0;" + FIRM,
             "wave 0 1 0; wave 1 1 0;");
@@ -229,7 +233,8 @@ final class TrialEdges {
         dueRow(BACKED, "wave 4 1 0;", new int[] {4, 5}, 2);
         dueRow(BACKED, "wave 0 1 0; wave 1 1 0;", new int[] {4, 1}, 2000);
         duePail("beach 1 2; sand 3; fall 0; damp 2; dry 2; hump 5 4 3; pack 0; heap 5 0 0; flag 0 0;", "", 8, 0);
-        dueRow("beach 2 2; sand 3; fall 0; damp 2; dry 2; hump 8 8 2; pack 0; heap 3 0 1; flag 0 1;", "", new int[] {2, 6}, 33);
+        dueRow("beach 2 2; sand 3; fall 0; damp 2; dry 2; hump 8 8 2; pack 0; heap 3 0 1; flag 0 1;", "",
+            new int[] {2, 6}, 33);
     }
 
     private static void asHandWould() {
@@ -269,7 +274,8 @@ final class TrialEdges {
 
     /** Each row that can be the only best one is the best one somewhere; a wall makes a wall or a dig behind it vain. */
     private static void sixteenRows() {
-        duePail("beach 2 3; sand 2; fall 0; damp 6; dry 1; hump 6 4 3; pack 0;heap 2 1 1; flag 1 1;heap 3 0 2;", "cut 0;", 6, 2);
+        duePail("beach 2 3; sand 2; fall 0; damp 6; dry 1; hump 6 4 3; pack 0;heap 2 1 1; flag 1 1;heap 3 0 2;",
+            "cut 0;", 6, 2);
         duePail("beach 2 3; sand 1; fall 1; damp 3; dry 1; hump 4 7 3; pack 0;heap 4 1 2; flag 1 2;", "", 7, 3);
         duePail("beach 1 3; sand 3; fall 0; damp 8; dry 1; hump 5 5 1; pack 0;heap 2 0 1; flag 0 1;", "", 9, 10);
         duePail("beach 1 3; sand 1; fall 0; damp 6; dry 1; hump 4 5 3; pack 0;heap 3 0 1; flag 0 1;heap 4 0 0;", "", 9, 11);
@@ -297,7 +303,8 @@ final class TrialEdges {
         dueRow(wet, "", new int[] {2, 6}, 33);
         String dry = "beach 2 2; sand 1; fall 0; damp 0; dry 1; hump 6 6 1; pack 0; heap 4 0 1; flag 0 1;";
         dueRow(dry, "", new int[] {3, 9}, 333);
-        dueRow("beach 1 3; sand 2; fall 0; damp 3; dry 1; hump 2 6 2; pack 0; heap 4 0 1; flag 0 1;", "", new int[] {3, 7}, 103);
+        dueRow("beach 1 3; sand 2; fall 0; damp 3; dry 1; hump 2 6 2; pack 0; heap 4 0 1; flag 0 1;", "",
+            new int[] {3, 7}, 103);
         dueRow("beach 1 3; sand 1; fall 0; damp 1; dry 2; hump 2 8 2; pack 0; heap 5 0 1; flag 0 1;", "wave 2 1 0;",
             new int[] {3, 9}, 131);
         dueRow("beach 2 2; sand 4; fall 0; damp 5; dry 4; hump 5 8 3; pack 0; heap 1 1 1; flag 1 1; heap 4 1 1;",

@@ -7,17 +7,22 @@ final class WaveEdges {
 
     static void all() {
         Edges.edge("Terms II", "WAVES of this minute, by numbers", WaveEdges::byNumbers);
-        Edges.edge("Terms II", "then, if the minute is one of the tide's (from its first on, each how many)", WaveEdges::thenTide);
-        Edges.edge("Terms II", "one of 100 is drawn by THE CHANCE: below its number a WAVE comes", WaveEdges::belowNumber);
+        Edges.edge("Terms II", "then, if the minute is one of the tide's (from its first on, each how many)",
+            WaveEdges::thenTide);
+        Edges.edge("Terms II", "one of 100 is drawn by THE CHANCE: below its number a WAVE comes",
+            WaveEdges::belowNumber);
         Edges.edge("Terms II", "whose REACH and then LEVEL are drawn (least and what is drawn of greatest less least and 1)",
             WaveEdges::drawnReachAndLevel);
         Edges.edge("Terms II", "A WAVE goes column by column: from y 0 on through REACH CELLS, as far as there are",
             WaveEdges::reach);
-        Edges.edge("Terms II", "at a STONE it stops, and the CELL behind it, if there is one, has WET 16", WaveEdges::stones);
+        Edges.edge("Terms II", "at a STONE it stops, and the CELL behind it, if there is one, has WET 16",
+            WaveEdges::stones);
         Edges.edge("Terms II", "at a CELL with HEIGHT above LEVEL: it stops, WET is 16", WaveEdges::aboveLevel);
-        Edges.edge("Terms II", "cut units of HEIGHT are carried off (LOST; not more than there are)", WaveEdges::carriedOff);
+        Edges.edge("Terms II", "cut units of HEIGHT are carried off (LOST; not more than there are)",
+            WaveEdges::carriedOff);
         Edges.edge("Terms II", "else WET is 16 there and it goes on", WaveEdges::goesOn);
-        Edges.edge("Terms II", "s becomes (1103515245 times s and 12345) modulo 2147483648 each time", WaveEdges::modulo);
+        Edges.edge("Terms II", "s becomes (1103515245 times s and 12345) modulo 2147483648 each time",
+            WaveEdges::modulo);
         Edges.edge("Terms II", "what is drawn of n is s over 65536 (cut), modulo n", WaveEdges::drawn);
         Edges.edge("Terms II", "s is 1 at first", WaveEdges::atFirst);
         Edges.edge("Promise 11", "THE CHANCE is a seed (0 .. 2147483647): 1; RANGE", WaveEdges::chance);
@@ -152,7 +157,8 @@ final class WaveEdges {
         TideKeep end = met("beach 2 2; sand 1; stone 0 1; stone 1 1;" + FIRM, "wave 0 8 9;");
         Checks.due("behind the last row there is none", end.cell(0, 1, 1) * 100 + end.cell(1, 1, 1), 808);
         TideKeep corner = met("beach 8 8; sand 1; stone 0 7; stone 7 7; stone 3 7;" + FIRM, "wave 0 8 9;");
-        Checks.due("behind the last of all there is none", corner.cell(0, 7, 1) + corner.cell(3, 7, 1) + corner.cell(7, 7, 1), 24);
+        Checks.due("behind the last of all there is none", corner.cell(0, 7, 1) + corner.cell(3, 7, 1) + corner.cell(7,
+            7, 1), 24);
         TideKeep wall = Checks.on("beach 1 2; sand 1;" + FIRM, "wave 0 2 9;");
         Checks.plan(wall, "hand wall 0 0;");
         wall.work(0);
@@ -205,19 +211,6 @@ final class WaveEdges {
         dueWets("beach 1 2; sand 0;", "wave 0 2 0;", new int[] {16, 16});
     }
 
-    private static int wavesBy(long seed, int minutes, int percent) {
-        int came = 0;
-        long chance = seed;
-        for (int i = 0; i < minutes; i++) {
-            chance = Checks.step(chance);
-            if (chance / 65536 % 100 < percent) {
-                came++;
-                chance = Checks.step(Checks.step(chance));
-            }
-        }
-        return came;
-    }
-
     private static void modulo() {
         TideKeep keep = Checks.on("beach 1 1;", "tide 0 359 1 37;");
         keep.keep(0);
@@ -225,7 +218,7 @@ final class WaveEdges {
             keep.take(0);
             keep.chance(seed);
             keep.pass(360);
-            Checks.due("WAVES by seed " + seed, keep.sum(6), wavesBy(seed, 360, 37));
+            Checks.due("WAVES by seed " + seed, keep.sum(6), Checks.wavesBy(seed, 360, 37));
         }
         // 2147483647 becomes 1043980748, over 65536 that is 15929; 0 becomes 12345, over 65536 that is 0.
         dueFirstDraw(2147483647, 29);
@@ -271,7 +264,7 @@ final class WaveEdges {
         Checks.due("below 39", other.sum(6), 1);
         TideKeep told = Checks.on("beach 1 1;", "tide 0 359 1 37;");
         told.pass(360);
-        Checks.due("WAVES of a new object", told.sum(6), wavesBy(1, 360, 37));
+        Checks.due("WAVES of a new object", told.sum(6), Checks.wavesBy(1, 360, 37));
     }
 
     private static void chance() {
@@ -282,7 +275,7 @@ final class WaveEdges {
         Edges.refused("chance(-1)", keep.chance(-1));
         Edges.refused("chance(the least int)", keep.chance(Integer.MIN_VALUE));
         keep.pass(100);
-        Checks.due("THE CHANCE of the last seed that was taken", keep.sum(6), wavesBy(7, 100, 50));
+        Checks.due("THE CHANCE of the last seed that was taken", keep.sum(6), Checks.wavesBy(7, 100, 50));
         Edges.changesNothing("chance() of no seed", other -> Edges.refused("chance(-5)", other.chance(-5)));
     }
 }
